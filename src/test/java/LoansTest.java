@@ -29,7 +29,7 @@ public final class LoansTest {
     }
 
     private static void promise16ReasonOfThePlace() {
-        BookplateHall hall = hall(2, 3, 50, 0, 0);
+        BookplateHall hall = Halls.withCopies(2, 3, 50, 0, 0);
         Check.same("in", 0, hall.reason(0, 0));
         hall.await(1, 0);
         Check.same("aside for another", 1, hall.reason(0, 0));
@@ -45,7 +45,7 @@ public final class LoansTest {
     }
 
     private static void promise16ReasonOfHowMany() {
-        BookplateHall hall = hall(1, 6, 50, 0, 1);
+        BookplateHall hall = Halls.withCopies(1, 6, 50, 0, 1);
         hall.lend(0, 0);
         Check.same("kind 0 with one", 0, hall.reason(0, 5));
         hall.lend(0, 1);
@@ -61,7 +61,7 @@ public final class LoansTest {
     }
 
     private static void promise16ReasonOfWhatIsOwed() {
-        BookplateHall hall = hall(1, 3, 50, 0);
+        BookplateHall hall = Halls.withCopies(1, 3, 50, 0);
         hall.lend(0, 0);
         hall.pass(40);
         hall.back(0);
@@ -77,7 +77,7 @@ public final class LoansTest {
     }
 
     private static void promise16ReasonOfLateOnes() {
-        BookplateHall hall = hall(1, 3, 50, 1, 1);
+        BookplateHall hall = Halls.withCopies(1, 3, 50, 1, 1);
         hall.lend(0, 0);
         hall.pass(28);
         Check.same("on the day on which it is due", 0, hall.reason(0, 1));
@@ -89,7 +89,7 @@ public final class LoansTest {
     }
 
     private static void promise16ReasonOrder() {
-        BookplateHall hall = hall(1, 4, 50, 0, 1);
+        BookplateHall hall = Halls.withCopies(1, 4, 50, 0, 1);
         hall.lend(0, 0);
         hall.pass(44 - 14);
         hall.back(0);
@@ -108,7 +108,7 @@ public final class LoansTest {
     }
 
     private static void promise16ReasonRefuses() {
-        BookplateHall hall = hall(1, 1, 50, 0);
+        BookplateHall hall = Halls.withCopies(1, 1, 50, 0);
         Check.refuses(Check.INDEX, "reason(1, 0)", hall, () -> hall.reason(1, 0));
         Check.refuses(Check.INDEX, "reason(-1, 0)", hall, () -> hall.reason(-1, 0));
         Check.refuses(Check.INDEX, "reason(0, 1)", hall, () -> hall.reason(0, 1));
@@ -117,7 +117,7 @@ public final class LoansTest {
     }
 
     private static void promise17Lend() {
-        BookplateHall hall = hall(1, 3, 50, 0, 1);
+        BookplateHall hall = Halls.withCopies(1, 3, 50, 0, 1);
         hall.pass(5);
         Check.same("due of kind 0", 19, hall.lend(0, 1));
         Check.same("due of kind 1", 33, hall.lend(1, 0));
@@ -130,7 +130,7 @@ public final class LoansTest {
     }
 
     private static void promise17LendEndsTheWait() {
-        BookplateHall hall = hall(1, 3, 50, 0, 0, 0, 0);
+        BookplateHall hall = Halls.withCopies(1, 3, 50, 0, 0, 0, 0);
         hall.lend(3, 2);
         hall.await(0, 0);
         Check.same("aside for reader 0", 0, hall.ofCopy(0, 2));
@@ -146,7 +146,7 @@ public final class LoansTest {
         Check.same("reader 2 waits alone", 1, hall.ofRecord(0, 5));
         Check.same("reader 2 is first", 2, hall.waiter(0, 0));
 
-        BookplateHall chain = hall(1, 2, 50, 0, 0, 0);
+        BookplateHall chain = Halls.withCopies(1, 2, 50, 0, 0, 0);
         chain.await(0, 0);
         chain.await(1, 0);
         chain.await(2, 0);
@@ -156,7 +156,7 @@ public final class LoansTest {
     }
 
     private static void promise17LendRefuses() {
-        BookplateHall hall = hall(1, 4, 50, 0, 0);
+        BookplateHall hall = Halls.withCopies(1, 4, 50, 0, 0);
         Check.refuses(Check.INDEX, "lend(2, 0)", hall, () -> hall.lend(2, 0));
         Check.refuses(Check.INDEX, "lend(-1, 0)", hall, () -> hall.lend(-1, 0));
         Check.refuses(Check.INDEX, "lend(0, 4)", hall, () -> hall.lend(0, 4));
@@ -177,7 +177,7 @@ public final class LoansTest {
     }
 
     private static void promise18Renew() {
-        BookplateHall hall = hall(1, 3, 50, 0, 1);
+        BookplateHall hall = Halls.withCopies(1, 3, 50, 0, 1);
         hall.lend(0, 0);
         hall.lend(1, 1);
         hall.pass(3);
@@ -198,7 +198,7 @@ public final class LoansTest {
     }
 
     private static void promise18RenewAndWaiters() {
-        BookplateHall hall = hall(2, 2, 50, 0, 0, 0);
+        BookplateHall hall = Halls.withCopies(2, 2, 50, 0, 0, 0);
         hall.lend(0, 0);
         hall.await(1, 0);
         Check.same("who waits has one aside", 14, hall.renew(0));
@@ -213,7 +213,7 @@ public final class LoansTest {
     }
 
     private static void promise18RenewRefuses() {
-        BookplateHall hall = hall(1, 2, 50, 0);
+        BookplateHall hall = Halls.withCopies(1, 2, 50, 0);
         Check.refuses(Check.INDEX, "renew(2)", hall, () -> hall.renew(2));
         Check.refuses(Check.INDEX, "renew(-1)", hall, () -> hall.renew(-1));
         Check.refuses(Check.STATE, "one that is in", hall, () -> hall.renew(0));
@@ -227,7 +227,7 @@ public final class LoansTest {
     }
 
     private static void promise19Back() {
-        BookplateHall hall = hall(1, 3, 200, 1);
+        BookplateHall hall = Halls.withCopies(1, 3, 200, 1);
         hall.lend(0, 0);
         hall.lend(0, 1);
         hall.lend(0, 2);
@@ -243,7 +243,7 @@ public final class LoansTest {
         Check.same("owes more", 78, hall.ofReader(0, 2));
         Check.same("copies", 0, hall.ofReader(0, 1));
 
-        BookplateHall most = hall(1, 2, 200, 0);
+        BookplateHall most = Halls.withCopies(1, 2, 200, 0);
         most.lend(0, 0);
         most.lend(0, 1);
         most.pass(34);
@@ -253,7 +253,7 @@ public final class LoansTest {
     }
 
     private static void promise19BackForWaiters() {
-        BookplateHall hall = hall(1, 2, 50, 0, 0, 0, 0);
+        BookplateHall hall = Halls.withCopies(1, 2, 50, 0, 0, 0, 0);
         hall.lend(0, 0);
         hall.lend(0, 1);
         hall.await(2, 0);
@@ -270,7 +270,7 @@ public final class LoansTest {
     }
 
     private static void promise19BackRefuses() {
-        BookplateHall hall = hall(1, 1, 50, 0);
+        BookplateHall hall = Halls.withCopies(1, 1, 50, 0);
         Check.refuses(Check.INDEX, "back(1)", hall, () -> hall.back(1));
         Check.refuses(Check.INDEX, "back(-1)", hall, () -> hall.back(-1));
         Check.refuses(Check.STATE, "one that is in", hall, () -> hall.back(0));
@@ -283,7 +283,7 @@ public final class LoansTest {
     }
 
     private static void promise20Find() {
-        BookplateHall hall = hall(1, 2, 200, 0);
+        BookplateHall hall = Halls.withCopies(1, 2, 200, 0);
         hall.lend(0, 0);
         hall.pass(40);
         hall.pass(4);
@@ -305,7 +305,7 @@ public final class LoansTest {
     }
 
     private static void promise20FindForWaiters() {
-        BookplateHall hall = hall(1, 1, 5, 0, 0);
+        BookplateHall hall = Halls.withCopies(1, 1, 5, 0, 0);
         hall.lend(0, 0);
         hall.await(1, 0);
         hall.pass(40);
@@ -316,7 +316,7 @@ public final class LoansTest {
         Check.same("till", 50, hall.ofCopy(0, 3));
         Check.same("the other owes nothing", 0, hall.ofReader(1, 2));
 
-        BookplateHall own = hall(1, 1, 5, 0, 0);
+        BookplateHall own = Halls.withCopies(1, 1, 5, 0, 0);
         own.lend(0, 0);
         own.pass(40);
         own.pass(4);
@@ -326,7 +326,7 @@ public final class LoansTest {
     }
 
     private static void promise20FindRefuses() {
-        BookplateHall hall = hall(1, 1, 50, 0);
+        BookplateHall hall = Halls.withCopies(1, 1, 50, 0);
         Check.refuses(Check.INDEX, "find(1)", hall, () -> hall.find(1));
         Check.refuses(Check.INDEX, "find(-1)", hall, () -> hall.find(-1));
         Check.refuses(Check.STATE, "one that is in", hall, () -> hall.find(0));
@@ -338,19 +338,5 @@ public final class LoansTest {
         hall.pass(4);
         hall.find(0);
         Check.refuses(Check.STATE, "one that was found", hall, () -> hall.find(0));
-    }
-
-    private static BookplateHall hall(int records, int copies, int price, int... kinds) {
-        BookplateHall hall = new BookplateHall();
-        for (int number = 0; number < records; number++) {
-            hall.record(NONE, 1, 0);
-        }
-        for (int number = 0; number < copies; number++) {
-            hall.copy(0, price);
-        }
-        for (int kind : kinds) {
-            hall.reader(kind);
-        }
-        return hall;
     }
 }

@@ -55,7 +55,7 @@ public final class NamesAndRecordsTest {
     }
 
     private static void promise3Variant() {
-        BookplateHall hall = hallWithNames(4);
+        BookplateHall hall = Halls.withNames(4);
         Check.same("variant(1, 0)", 0, hall.variant(1, 0));
         Check.same("variant(2, 1)", 0, hall.variant(2, 1));
         Check.same("variant(0, 3)", 3, hall.variant(0, 3));
@@ -67,7 +67,7 @@ public final class NamesAndRecordsTest {
     }
 
     private static void promise3VariantRefuses() {
-        BookplateHall hall = hallWithNames(16);
+        BookplateHall hall = Halls.withNames(16);
         for (int name = 1; name < 16; name++) {
             hall.variant(name, name - 1);
         }
@@ -80,12 +80,12 @@ public final class NamesAndRecordsTest {
         Check.refuses(Check.INDEX, "variant(16, 0)", hall, () -> hall.variant(16, 0));
         Check.refuses(Check.INDEX, "variant(0, 16)", hall, () -> hall.variant(0, 16));
         Check.refuses(Check.INDEX, "variant(16, 16)", hall, () -> hall.variant(16, 16));
-        BookplateHall two = hallWithNames(2);
+        BookplateHall two = Halls.withNames(2);
         Check.refuses(Check.INDEX, "variant(2, 2) of two names", two, () -> two.variant(2, 2));
     }
 
     private static void promise4Stands() {
-        BookplateHall hall = hallWithNames(3);
+        BookplateHall hall = Halls.withNames(3);
         Check.same("stands(1) for itself", 1, hall.stands(1));
         hall.variant(1, 2);
         Check.same("stands(1) for another", 2, hall.stands(1));
@@ -98,7 +98,7 @@ public final class NamesAndRecordsTest {
     }
 
     private static void promise5Record() {
-        BookplateHall hall = hallWithNames(1);
+        BookplateHall hall = Halls.withNames(1);
         Check.same("record of least", 0, hall.record(NONE, 1, 0));
         Check.same("record of most", 1, hall.record(0, 4095, 99));
         for (int number = 2; number < 20; number++) {
@@ -112,7 +112,7 @@ public final class NamesAndRecordsTest {
     }
 
     private static void promise5RecordRefuses() {
-        BookplateHall hall = hallWithNames(1);
+        BookplateHall hall = Halls.withNames(1);
         Check.refuses(Check.INDEX, "author 1", hall, () -> hall.record(1, 1, 0));
         Check.refuses(Check.INDEX, "author -2", hall, () -> hall.record(-2, 1, 0));
         Check.refuses(Check.INDEX, "author 16", hall, () -> hall.record(16, 1, 0));
@@ -126,7 +126,7 @@ public final class NamesAndRecordsTest {
     }
 
     private static void promise6OfRecord() {
-        BookplateHall hall = hallWithNames(2);
+        BookplateHall hall = Halls.withNames(2);
         hall.record(1, 9, 42);
         facts(hall, 0, 1, 9, 42, 0, 0, 0, 0);
         hall.record(NONE, 5, 7);
@@ -148,7 +148,7 @@ public final class NamesAndRecordsTest {
     }
 
     private static void promise6OfRecordLaid() {
-        BookplateHall hall = hallWithNames(1);
+        BookplateHall hall = Halls.withNames(1);
         hall.record(0, 1, 1);
         hall.record(NONE, 2, 2);
         hall.record(NONE, 3, 3);
@@ -172,7 +172,7 @@ public final class NamesAndRecordsTest {
     }
 
     private static void promise6OfRecordRefuses() {
-        BookplateHall hall = hallWithNames(1);
+        BookplateHall hall = Halls.withNames(1);
         hall.record(0, 1, 1);
         Check.refuses(Check.INDEX, "ofRecord(1, 0)", hall, () -> hall.ofRecord(1, 0));
         Check.refuses(Check.INDEX, "ofRecord(-1, 0)", hall, () -> hall.ofRecord(-1, 0));
@@ -182,7 +182,7 @@ public final class NamesAndRecordsTest {
     }
 
     private static void promise7LikenessOfAuthors() {
-        BookplateHall hall = hallWithNames(3);
+        BookplateHall hall = Halls.withNames(3);
         hall.variant(1, 0);
         hall.record(0, 1, 0);
         hall.record(1, 2, 50);
@@ -201,7 +201,7 @@ public final class NamesAndRecordsTest {
     }
 
     private static void promise7LikenessOfTitlesAndYears() {
-        BookplateHall hall = hallWithNames(1);
+        BookplateHall hall = Halls.withNames(1);
         hall.record(NONE, 7, 50);
         hall.record(0, 3, 50);
         hall.record(0, 7, 46);
@@ -222,7 +222,7 @@ public final class NamesAndRecordsTest {
     }
 
     private static void promise7LikenessRefuses() {
-        BookplateHall hall = hallWithNames(1);
+        BookplateHall hall = Halls.withNames(1);
         hall.record(NONE, 7, 50);
         Check.refuses(Check.INDEX, "likeness(0, 1)", hall, () -> hall.likeness(0, 1));
         Check.refuses(Check.INDEX, "likeness(1, 0)", hall, () -> hall.likeness(1, 0));
@@ -232,7 +232,7 @@ public final class NamesAndRecordsTest {
     }
 
     private static void promise8Twin() {
-        BookplateHall hall = hallWithNames(1);
+        BookplateHall hall = Halls.withNames(1);
         hall.record(NONE, 1, 0);
         Check.same("the only one", NONE, hall.twin(0, Integer.MIN_VALUE));
         hall.record(0, 2, 99);
@@ -254,7 +254,7 @@ public final class NamesAndRecordsTest {
     }
 
     private static void promise8TwinOfOneLaid() {
-        BookplateHall hall = hallWithNames(1);
+        BookplateHall hall = Halls.withNames(1);
         hall.record(NONE, 1, 0);
         hall.record(NONE, 1, 0);
         hall.record(NONE, 1, 1);
@@ -270,7 +270,7 @@ public final class NamesAndRecordsTest {
     }
 
     private static void promise9LayCopies() {
-        BookplateHall hall = hallWithReaders(2, 1, 0);
+        BookplateHall hall = Halls.withReaders(2, 1, 0);
         hall.copy(0, 10);
         hall.copy(1, 10);
         hall.copy(1, 10);
@@ -288,7 +288,7 @@ public final class NamesAndRecordsTest {
     }
 
     private static void promise9LayWaiters() {
-        BookplateHall hall = hallWithReaders(2, 0, 0, 0, 0);
+        BookplateHall hall = Halls.withReaders(2, 0, 0, 0, 0);
         hall.await(3, 0);
         hall.await(1, 0);
         hall.await(0, 0);
@@ -302,7 +302,7 @@ public final class NamesAndRecordsTest {
     }
 
     private static void promise9LayKeepsThoseWhoWaitedThere() {
-        BookplateHall hall = hallWithReaders(2, 0, 1, 0);
+        BookplateHall hall = Halls.withReaders(2, 0, 1, 0);
         hall.copy(0, 10);
         hall.lend(1, 0);
         hall.await(1, 1);
@@ -316,7 +316,7 @@ public final class NamesAndRecordsTest {
     }
 
     private static void promise9LayDropsThoseWithACopy() {
-        BookplateHall hall = hallWithReaders(2, 0, 0, 0);
+        BookplateHall hall = Halls.withReaders(2, 0, 0, 0);
         hall.copy(0, 10);
         hall.copy(1, 10);
         hall.lend(0, 1);
@@ -330,7 +330,7 @@ public final class NamesAndRecordsTest {
         hall.leave(1, 1);
         Check.same("in", 0, hall.ofCopy(0, 1));
 
-        BookplateHall moved = hallWithReaders(3, 0, 0, 0);
+        BookplateHall moved = Halls.withReaders(3, 0, 0, 0);
         moved.copy(0, 10);
         moved.lend(0, 0);
         moved.await(0, 1);
@@ -342,7 +342,7 @@ public final class NamesAndRecordsTest {
     }
 
     private static void promise9LayFreesTheGreaterOfTwoAside() {
-        BookplateHall hall = hallWithReaders(2, 0, 0, 0);
+        BookplateHall hall = Halls.withReaders(2, 0, 0, 0);
         hall.copy(0, 10);
         hall.copy(1, 10);
         hall.await(0, 1);
@@ -358,7 +358,7 @@ public final class NamesAndRecordsTest {
         Check.same("the greater goes to the next", 1, hall.ofCopy(1, 2));
         Check.same("till a later day", 8, hall.ofCopy(1, 3));
 
-        BookplateHall alone = hallWithReaders(2, 0);
+        BookplateHall alone = Halls.withReaders(2, 0);
         alone.copy(0, 10);
         alone.copy(1, 10);
         alone.await(0, 1);
@@ -371,7 +371,7 @@ public final class NamesAndRecordsTest {
     }
 
     private static void promise9LayPutsAsideWhatIsIn() {
-        BookplateHall hall = hallWithReaders(2, 0, 0, 0);
+        BookplateHall hall = Halls.withReaders(2, 0, 0, 0);
         hall.copy(1, 10);
         hall.copy(1, 10);
         hall.copy(1, 10);
@@ -384,7 +384,7 @@ public final class NamesAndRecordsTest {
         Check.same("till", 9, hall.ofCopy(1, 3));
         Check.same("the rest in", 0, hall.ofCopy(2, 1));
 
-        BookplateHall back = hallWithReaders(2, 0, 0);
+        BookplateHall back = Halls.withReaders(2, 0, 0);
         back.copy(0, 10);
         back.await(0, 1);
         back.lay(0, 1);
@@ -392,7 +392,7 @@ public final class NamesAndRecordsTest {
     }
 
     private static void promise9LayOrder() {
-        BookplateHall hall = hallWithReaders(2, 0, 0, 0, 0);
+        BookplateHall hall = Halls.withReaders(2, 0, 0, 0, 0);
         hall.copy(0, 10);
         hall.copy(1, 10);
         hall.copy(1, 10);
@@ -407,7 +407,7 @@ public final class NamesAndRecordsTest {
         Check.same("freed for the first", 2, hall.ofCopy(0, 2));
         Check.same("lent yet", 1, hall.ofCopy(1, 1));
 
-        BookplateHall both = hallWithReaders(2, 0, 0, 0);
+        BookplateHall both = Halls.withReaders(2, 0, 0, 0);
         both.copy(0, 10);
         both.copy(1, 10);
         both.copy(1, 10);
@@ -422,7 +422,7 @@ public final class NamesAndRecordsTest {
     }
 
     private static void promise9LayRefuses() {
-        BookplateHall hall = hallWithReaders(3);
+        BookplateHall hall = Halls.withReaders(3);
         Check.refuses(Check.STATE, "lay(0, 0)", hall, () -> hall.lay(0, 0));
         Check.refuses(Check.INDEX, "lay(0, 3)", hall, () -> hall.lay(0, 3));
         Check.refuses(Check.INDEX, "lay(3, 0)", hall, () -> hall.lay(3, 0));
@@ -446,7 +446,7 @@ public final class NamesAndRecordsTest {
     }
 
     private static void promise10Found() {
-        BookplateHall hall = hallWithNames(3);
+        BookplateHall hall = Halls.withNames(3);
         hall.variant(1, 0);
         hall.record(0, 1, 0);
         hall.record(1, 3, 0);
@@ -467,31 +467,12 @@ public final class NamesAndRecordsTest {
     }
 
     private static void promise10FoundRefuses() {
-        BookplateHall hall = hallWithNames(1);
+        BookplateHall hall = Halls.withNames(1);
         Check.refuses(Check.INDEX, "found(0, 1)", hall, () -> hall.found(0, 1));
         Check.refuses(Check.INDEX, "found(0, -2)", hall, () -> hall.found(0, -2));
         Check.refuses(Check.INDEX, "found(4096, 1)", hall, () -> hall.found(4096, 1));
         Check.refuses(Check.ARGUMENT, "found(4096, 0)", hall, () -> hall.found(4096, 0));
         Check.refuses(Check.ARGUMENT, "found(-1, -1)", hall, () -> hall.found(-1, NONE));
-    }
-
-    private static BookplateHall hallWithNames(int count) {
-        BookplateHall hall = new BookplateHall();
-        for (int number = 0; number < count; number++) {
-            hall.name();
-        }
-        return hall;
-    }
-
-    private static BookplateHall hallWithReaders(int records, int... kinds) {
-        BookplateHall hall = new BookplateHall();
-        for (int number = 0; number < records; number++) {
-            hall.record(NONE, 1, 0);
-        }
-        for (int kind : kinds) {
-            hall.reader(kind);
-        }
-        return hall;
     }
 
     private static void facts(BookplateHall hall, int record, int... due) {

@@ -24,7 +24,7 @@ public final class WaitingAndDaysTest {
     }
 
     private static void promise21Await() {
-        BookplateHall hall = hall(2, 0, 0, 0, 0);
+        BookplateHall hall = Halls.withReaders(2, 0, 0, 0, 0);
         hall.copy(1, 10);
         hall.copy(0, 10);
         hall.copy(0, 10);
@@ -48,7 +48,7 @@ public final class WaitingAndDaysTest {
     }
 
     private static void promise21AwaitWhatWasLaid() {
-        BookplateHall hall = hall(3, 0, 0, 0);
+        BookplateHall hall = Halls.withReaders(3, 0, 0, 0);
         hall.copy(0, 10);
         hall.lend(0, 0);
         hall.lay(0, 1);
@@ -66,7 +66,7 @@ public final class WaitingAndDaysTest {
     }
 
     private static void promise21AwaitRefuses() {
-        BookplateHall hall = hall(1, 0, 0);
+        BookplateHall hall = Halls.withReaders(1, 0, 0);
         hall.copy(0, 10);
         Check.refuses(Check.INDEX, "await(2, 0)", hall, () -> hall.await(2, 0));
         Check.refuses(Check.INDEX, "await(-1, 0)", hall, () -> hall.await(-1, 0));
@@ -83,7 +83,7 @@ public final class WaitingAndDaysTest {
     }
 
     private static void promise22Leave() {
-        BookplateHall hall = hall(2, 0, 0, 0, 0);
+        BookplateHall hall = Halls.withReaders(2, 0, 0, 0, 0);
         hall.copy(0, 10);
         hall.copy(0, 10);
         hall.await(0, 0);
@@ -106,7 +106,7 @@ public final class WaitingAndDaysTest {
     }
 
     private static void promise22LeaveWhatWasLaid() {
-        BookplateHall hall = hall(2, 0, 0);
+        BookplateHall hall = Halls.withReaders(2, 0, 0);
         hall.await(0, 0);
         hall.await(1, 0);
         hall.lay(0, 1);
@@ -115,7 +115,7 @@ public final class WaitingAndDaysTest {
     }
 
     private static void promise22LeaveRefuses() {
-        BookplateHall hall = hall(2, 0, 0);
+        BookplateHall hall = Halls.withReaders(2, 0, 0);
         hall.await(0, 0);
         Check.refuses(Check.INDEX, "leave(2, 0)", hall, () -> hall.leave(2, 0));
         Check.refuses(Check.INDEX, "leave(-1, 0)", hall, () -> hall.leave(-1, 0));
@@ -128,7 +128,7 @@ public final class WaitingAndDaysTest {
     }
 
     private static void promise23Waiter() {
-        BookplateHall hall = hall(2, 0, 0);
+        BookplateHall hall = Halls.withReaders(2, 0, 0);
         hall.await(1, 0);
         hall.await(0, 0);
         Check.same("waiter(0, 0)", 1, hall.waiter(0, 0));
@@ -145,7 +145,7 @@ public final class WaitingAndDaysTest {
     }
 
     private static void promise24PassEndsWaits() {
-        BookplateHall hall = hall(1, 0, 0, 0);
+        BookplateHall hall = Halls.withReaders(1, 0, 0, 0);
         hall.copy(0, 10);
         hall.await(0, 0);
         hall.await(1, 0);
@@ -163,7 +163,7 @@ public final class WaitingAndDaysTest {
     }
 
     private static void promise24PassCopyByCopy() {
-        BookplateHall hall = hall(1, 0, 0, 0, 0);
+        BookplateHall hall = Halls.withReaders(1, 0, 0, 0, 0);
         hall.copy(0, 10);
         hall.copy(0, 10);
         hall.await(0, 0);
@@ -177,7 +177,7 @@ public final class WaitingAndDaysTest {
     }
 
     private static void promise24PassLoses() {
-        BookplateHall hall = hall(1, 0, 1);
+        BookplateHall hall = Halls.withReaders(1, 0, 1);
         hall.copy(0, 1);
         hall.copy(0, 200);
         hall.copy(0, 30);
@@ -199,7 +199,7 @@ public final class WaitingAndDaysTest {
     }
 
     private static void promise24PassRefuses() {
-        BookplateHall hall = hall(1, 0);
+        BookplateHall hall = Halls.withReaders(1, 0);
         Check.refuses(Check.ARGUMENT, "pass(0)", hall, () -> hall.pass(0));
         Check.refuses(Check.ARGUMENT, "pass(-1)", hall, () -> hall.pass(-1));
         Check.refuses(Check.ARGUMENT, "pass(41)", hall, () -> hall.pass(41));
@@ -209,7 +209,7 @@ public final class WaitingAndDaysTest {
     }
 
     private static void promise25Many() {
-        BookplateHall hall = hall(3, 0, 0, 0);
+        BookplateHall hall = Halls.withReaders(3, 0, 0, 0);
         hall.name();
         hall.name();
         hall.lay(2, 0);
@@ -235,13 +235,14 @@ public final class WaitingAndDaysTest {
     }
 
     private static void promise26MeanWaits() {
-        BookplateHall hall = hall(3);
+        BookplateHall hall = Halls.withReaders(3);
         Check.same("without any reader", 0.0, hall.meanWaits());
         hall.reader(0);
         Check.same("of one who does not wait", 0.0, hall.meanWaits());
+        hall.await(0, 0);
+        Check.same("of one who waits", 1.0, hall.meanWaits());
         hall.reader(0);
         hall.reader(1);
-        hall.await(0, 0);
         Check.same("of one of three", 1.0 / 3, hall.meanWaits());
         hall.await(0, 1);
         hall.await(1, 1);
@@ -255,16 +256,5 @@ public final class WaitingAndDaysTest {
         for (int what = 0; what < due.length; what++) {
             Check.same("many(" + what + ")", due[what], hall.many(what));
         }
-    }
-
-    private static BookplateHall hall(int records, int... kinds) {
-        BookplateHall hall = new BookplateHall();
-        for (int number = 0; number < records; number++) {
-            hall.record(NONE, 1, 0);
-        }
-        for (int kind : kinds) {
-            hall.reader(kind);
-        }
-        return hall;
     }
 }

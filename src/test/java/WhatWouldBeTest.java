@@ -18,12 +18,13 @@ public final class WhatWouldBeTest {
         promise30LostIn();
         promise31DigestOfANewObject();
         promise31DigestOfAll();
+        promise31DigestOfThirtyDays();
         nothingIsChanged();
         Check.end("WhatWouldBeTest");
     }
 
     private static void promise27FineIn() {
-        BookplateHall hall = hall(1, 1, 77, 0);
+        BookplateHall hall = Halls.withCopies(1, 1, 77, 0);
         hall.lend(0, 0);
         Check.same("now", 0, hall.fineIn(0, 0));
         Check.same("on the day on which it is due", 0, hall.fineIn(0, 14));
@@ -42,7 +43,7 @@ public final class WhatWouldBeTest {
     }
 
     private static void promise27FineInRefuses() {
-        BookplateHall hall = hall(1, 2, 77, 0);
+        BookplateHall hall = Halls.withCopies(1, 2, 77, 0);
         Check.refuses(Check.INDEX, "fineIn(2, 0)", hall, () -> hall.fineIn(2, 0));
         Check.refuses(Check.INDEX, "fineIn(-1, 61)", hall, () -> hall.fineIn(-1, 61));
         Check.refuses(Check.ARGUMENT, "fineIn(0, 61)", hall, () -> hall.fineIn(0, 61));
@@ -58,7 +59,7 @@ public final class WhatWouldBeTest {
     }
 
     private static void promise28SoonOfLentOnes() {
-        BookplateHall hall = hall(1, 2, 50, 0, 1, 0, 0);
+        BookplateHall hall = Halls.withCopies(1, 2, 50, 0, 1, 0, 0);
         hall.lend(1, 0);
         hall.pass(3);
         hall.lend(0, 1);
@@ -74,7 +75,7 @@ public final class WhatWouldBeTest {
     }
 
     private static void promise28SoonOfOnesAside() {
-        BookplateHall hall = hall(1, 1, 50, 1, 0, 0);
+        BookplateHall hall = Halls.withCopies(1, 1, 50, 1, 0, 0);
         hall.await(0, 0);
         hall.await(1, 0);
         hall.await(2, 0);
@@ -86,7 +87,7 @@ public final class WhatWouldBeTest {
     }
 
     private static void promise28SoonInTurns() {
-        BookplateHall hall = hall(2, 2, 50, 0, 1, 1, 0, 0, 1, 0);
+        BookplateHall hall = Halls.withCopies(2, 2, 50, 0, 1, 1, 0, 0, 1, 0);
         hall.copy(1, 50);
         hall.lend(0, 1);
         hall.pass(1);
@@ -103,7 +104,7 @@ public final class WhatWouldBeTest {
         Check.same("fifth", 55, hall.soon(6, 0));
         Check.same("asked again", 41, hall.soon(4, 0));
 
-        BookplateHall tie = hall(1, 2, 50, 1, 1, 0, 0);
+        BookplateHall tie = Halls.withCopies(1, 2, 50, 1, 1, 0, 0);
         tie.lend(0, 0);
         tie.lend(0, 1);
         tie.await(1, 0);
@@ -115,7 +116,7 @@ public final class WhatWouldBeTest {
     }
 
     private static void promise28SoonWithoutCopies() {
-        BookplateHall hall = hall(3, 0, 50, 0, 0);
+        BookplateHall hall = Halls.withCopies(3, 0, 50, 0, 0);
         hall.await(0, 0);
         Check.same("no copy", NONE, hall.soon(0, 0));
         hall.copy(1, 50);
@@ -131,7 +132,7 @@ public final class WhatWouldBeTest {
     }
 
     private static void promise28SoonRefuses() {
-        BookplateHall hall = hall(2, 1, 50, 0, 0);
+        BookplateHall hall = Halls.withCopies(2, 1, 50, 0, 0);
         hall.await(0, 0);
         Check.refuses(Check.INDEX, "soon(2, 0)", hall, () -> hall.soon(2, 0));
         Check.refuses(Check.INDEX, "soon(-1, 0)", hall, () -> hall.soon(-1, 0));
@@ -142,7 +143,7 @@ public final class WhatWouldBeTest {
     }
 
     private static void promise29MayBorrow() {
-        BookplateHall hall = hall(2, 4, 50, 0, 0);
+        BookplateHall hall = Halls.withCopies(2, 4, 50, 0, 0);
         hall.copy(1, 50);
         Check.same("all", 5, hall.mayBorrow(0));
         hall.await(1, 0);
@@ -168,7 +169,7 @@ public final class WhatWouldBeTest {
     }
 
     private static void promise30LostIn() {
-        BookplateHall hall = hall(1, 4, 50, 0, 1);
+        BookplateHall hall = Halls.withCopies(1, 4, 50, 0, 1);
         hall.lend(0, 0);
         hall.lend(1, 1);
         hall.await(0, hall.record(NONE, 1, 0));
@@ -194,7 +195,7 @@ public final class WhatWouldBeTest {
     }
 
     private static void promise31DigestOfAll() {
-        BookplateHall hall = hall(3, 3, 50, 0, 1, 0);
+        BookplateHall hall = Halls.withCopies(3, 3, 50, 0, 1, 0);
         hall.name();
         hall.name();
         hall.variant(0, 1);
@@ -215,6 +216,18 @@ public final class WhatWouldBeTest {
         Check.same("digest with lost ones", digestByTheFace(hall), hall.digest());
     }
 
+    private static void promise31DigestOfThirtyDays() {
+        BookplateHall hall = Halls.withCopies(1, 2, 50, 0, 1);
+        hall.lend(0, 0);
+        hall.lend(1, 1);
+        hall.pass(14);
+        Check.same("lost in 30 days", 1, hall.lostIn(30));
+        Check.same("digest with one lost in 30 days", digestByTheFace(hall), hall.digest());
+        hall.pass(13);
+        Check.same("the other, not lost in 30 days", 1, hall.lostIn(30));
+        Check.same("digest with one lost in 31 days", digestByTheFace(hall), hall.digest());
+    }
+
     /** The sum as the document tells it, of what the other calls answer. */
     private static long digestByTheFace(BookplateHall hall) {
         long sum = 982;
@@ -224,7 +237,7 @@ public final class WhatWouldBeTest {
         for (int name = 0; name < hall.many(1); name++) {
             sum = sum * 31 + hall.stands(name);
         }
-        for (int record = 0; record < 4; record++) {
+        for (int record = 0; record < recordsOf(hall); record++) {
             for (int what = 0; what <= 6; what++) {
                 sum = sum * 31 + hall.ofRecord(record, what);
             }
@@ -246,8 +259,20 @@ public final class WhatWouldBeTest {
         return sum * 31 + hall.lostIn(30);
     }
 
+    private static int recordsOf(BookplateHall hall) {
+        int count = 0;
+        try {
+            for (; count < 20; count++) {
+                hall.ofRecord(count, 0);
+            }
+        } catch (IndexOutOfBoundsException none) {
+            return count;
+        }
+        return count;
+    }
+
     private static void nothingIsChanged() {
-        BookplateHall hall = hall(1, 2, 50, 0, 1, 0);
+        BookplateHall hall = Halls.withCopies(1, 2, 50, 0, 1, 0);
         hall.lend(0, 0);
         hall.await(1, 0);
         hall.await(2, 0);
@@ -263,19 +288,5 @@ public final class WhatWouldBeTest {
         hall.reason(0, 0);
         hall.meanWaits();
         Check.same("digest behind what is only asked", before, hall.digest());
-    }
-
-    private static BookplateHall hall(int records, int copies, int price, int... kinds) {
-        BookplateHall hall = new BookplateHall();
-        for (int number = 0; number < records; number++) {
-            hall.record(NONE, 1, 0);
-        }
-        for (int number = 0; number < copies; number++) {
-            hall.copy(0, price);
-        }
-        for (int kind : kinds) {
-            hall.reader(kind);
-        }
-        return hall;
     }
 }
