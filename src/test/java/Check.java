@@ -6,12 +6,18 @@ final class Check {
     static final Class<? extends RuntimeException> STATE = IllegalStateException.class;
 
     private static int wrong;
+    private static String test = "";
 
     interface Call {
         long answer();
     }
 
     private Check() {
+    }
+
+    /** What is told from now on is told of this test. */
+    static void begin(String name) {
+        test = name;
     }
 
     static void same(String what, long due, long got) {
@@ -53,8 +59,8 @@ final class Check {
         }
     }
 
-    static void end(String test) {
-        System.out.println(test + ": " + (wrong == 0 ? "all is as due" : wrong + " are not as due"));
+    static void end(String tests) {
+        System.out.println(tests + ": " + (wrong == 0 ? "all is as due" : wrong + " are not as due"));
         if (wrong != 0) {
             System.exit(1);
         }
@@ -62,6 +68,6 @@ final class Check {
 
     private static void report(String line) {
         wrong++;
-        System.out.println("  " + line);
+        System.out.println("  " + (test.isEmpty() ? "" : test + ": ") + line);
     }
 }

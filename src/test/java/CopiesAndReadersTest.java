@@ -45,11 +45,11 @@ public final class CopiesAndReadersTest {
         hall.await(0, 0);
         hall.pass(5);
         hall.copy(0, 10);
-        facts(hall, 0, 0, 2, 1, 11, 0, 0, 10);
+        Facts.ofCopy(hall, 0, 0, 2, 1, 11, 0, 0, 10);
         hall.copy(0, 20);
-        facts(hall, 1, 0, 2, 0, 11, 0, 0, 20);
+        Facts.ofCopy(hall, 1, 0, 2, 0, 11, 0, 0, 20);
         hall.copy(0, 30);
-        facts(hall, 2, 0, 0, NONE, NONE, 0, 0, 30);
+        Facts.ofCopy(hall, 2, 0, 0, NONE, NONE, 0, 0, 30);
     }
 
     private static void promise11CopyRefuses() {
@@ -72,33 +72,33 @@ public final class CopiesAndReadersTest {
         hall.reader(0);
         hall.reader(1);
         hall.copy(0, 77);
-        facts(hall, 0, 0, 0, NONE, NONE, 0, 0, 77);
+        Facts.ofCopy(hall, 0, 0, 0, NONE, NONE, 0, 0, 77);
         hall.lend(1, 0);
-        facts(hall, 0, 0, 1, 1, 28, 0, 0, 77);
+        Facts.ofCopy(hall, 0, 0, 1, 1, 28, 0, 0, 77);
         hall.renew(0);
-        facts(hall, 0, 0, 1, 1, 28, 0, 1, 77);
+        Facts.ofCopy(hall, 0, 0, 1, 1, 28, 0, 1, 77);
         hall.pass(28);
-        facts(hall, 0, 0, 1, 1, 28, 0, 1, 77);
+        Facts.ofCopy(hall, 0, 0, 1, 1, 28, 0, 1, 77);
         hall.pass(1);
-        facts(hall, 0, 0, 1, 1, 28, 1, 1, 77);
+        Facts.ofCopy(hall, 0, 0, 1, 1, 28, 1, 1, 77);
         hall.pass(28);
-        facts(hall, 0, 0, 1, 1, 28, 29, 1, 77);
+        Facts.ofCopy(hall, 0, 0, 1, 1, 28, 29, 1, 77);
         hall.pass(1);
-        facts(hall, 0, 0, 3, 1, NONE, 0, 0, 77);
+        Facts.ofCopy(hall, 0, 0, 3, 1, NONE, 0, 0, 77);
         hall.find(0);
-        facts(hall, 0, 0, 0, NONE, NONE, 0, 0, 77);
+        Facts.ofCopy(hall, 0, 0, 0, NONE, NONE, 0, 0, 77);
         hall.await(0, 0);
-        facts(hall, 0, 0, 2, 0, 64, 0, 0, 77);
+        Facts.ofCopy(hall, 0, 0, 2, 0, 64, 0, 0, 77);
         hall.pass(6);
-        facts(hall, 0, 0, 2, 0, 64, 0, 0, 77);
+        Facts.ofCopy(hall, 0, 0, 2, 0, 64, 0, 0, 77);
         hall.pass(1);
-        facts(hall, 0, 0, 0, NONE, NONE, 0, 0, 77);
+        Facts.ofCopy(hall, 0, 0, 0, NONE, NONE, 0, 0, 77);
         hall.lend(0, 0);
         hall.renew(0);
         hall.back(0);
-        facts(hall, 0, 0, 0, NONE, NONE, 0, 0, 77);
+        Facts.ofCopy(hall, 0, 0, 0, NONE, NONE, 0, 0, 77);
         hall.lend(0, 0);
-        facts(hall, 0, 0, 1, 0, 79, 0, 0, 77);
+        Facts.ofCopy(hall, 0, 0, 1, 0, 79, 0, 0, 77);
     }
 
     private static void promise12OfCopyRefuses() {
@@ -133,20 +133,20 @@ public final class CopiesAndReadersTest {
         }
         hall.reader(1);
         hall.reader(0);
-        readerFacts(hall, 0, 1, 0, 0, 0, 0, 0, 0);
-        readerFacts(hall, 1, 0, 0, 0, 0, 0, 0, 0);
+        Facts.ofReader(hall, 0, 1, 0, 0, 0, 0, 0, 0);
+        Facts.ofReader(hall, 1, 0, 0, 0, 0, 0, 0, 0);
         hall.lend(1, 0);
         hall.lend(0, 1);
         hall.await(1, 2);
         hall.await(1, 1);
-        readerFacts(hall, 0, 1, 1, 0, 0, 0, 0, 0);
-        readerFacts(hall, 1, 0, 1, 0, 2, 1, 0, 0);
+        Facts.ofReader(hall, 0, 1, 1, 0, 0, 0, 0, 0);
+        Facts.ofReader(hall, 1, 0, 1, 0, 2, 1, 0, 0);
         hall.lend(1, 2);
-        readerFacts(hall, 1, 0, 2, 0, 1, 0, 0, 0);
+        Facts.ofReader(hall, 1, 0, 2, 0, 1, 0, 0, 0);
         hall.lay(0, 1);
-        readerFacts(hall, 1, 0, 2, 0, 1, 0, 0, 0);
+        Facts.ofReader(hall, 1, 0, 2, 0, 1, 0, 0, 0);
         hall.leave(1, 0);
-        readerFacts(hall, 1, 0, 2, 0, 0, 0, 0, 0);
+        Facts.ofReader(hall, 1, 0, 2, 0, 0, 0, 0, 0);
     }
 
     private static void promise14OfReaderFines() {
@@ -159,19 +159,19 @@ public final class CopiesAndReadersTest {
         hall.pass(3);
         hall.lend(0, 1);
         hall.pass(11);
-        readerFacts(hall, 0, 0, 2, 0, 0, 0, 0, 0);
+        Facts.ofReader(hall, 0, 0, 2, 0, 0, 0, 0, 0);
         hall.pass(1);
-        readerFacts(hall, 0, 0, 2, 0, 0, 0, 1, 2);
+        Facts.ofReader(hall, 0, 0, 2, 0, 0, 0, 1, 2);
         hall.pass(3);
-        readerFacts(hall, 0, 0, 2, 0, 0, 0, 2, 10);
+        Facts.ofReader(hall, 0, 0, 2, 0, 0, 0, 2, 10);
         hall.pass(16);
-        readerFacts(hall, 0, 0, 2, 0, 0, 0, 2, 40 + 34);
+        Facts.ofReader(hall, 0, 0, 2, 0, 0, 0, 2, 40 + 34);
         hall.pass(9);
-        readerFacts(hall, 0, 0, 2, 0, 0, 0, 2, 80);
+        Facts.ofReader(hall, 0, 0, 2, 0, 0, 0, 2, 80);
         hall.pass(1);
-        readerFacts(hall, 0, 0, 1, 90, 0, 0, 1, 40);
+        Facts.ofReader(hall, 0, 0, 1, 90, 0, 0, 1, 40);
         Check.same("back", 40, hall.back(1));
-        readerFacts(hall, 0, 0, 0, 130, 0, 0, 0, 0);
+        Facts.ofReader(hall, 0, 0, 0, 130, 0, 0, 0, 0);
     }
 
     private static void promise14OfReaderRefuses() {
@@ -204,17 +204,5 @@ public final class CopiesAndReadersTest {
         Check.same("pay(0, 1)", 19, hall.pay(0, 1));
         Check.same("pay(0, 19)", 0, hall.pay(0, 19));
         Check.same("the other owes nothing", 0, hall.ofReader(1, 2));
-    }
-
-    private static void facts(BookplateHall hall, int copy, int... due) {
-        for (int what = 0; what < due.length; what++) {
-            Check.same("ofCopy(" + copy + ", " + what + ")", due[what], hall.ofCopy(copy, what));
-        }
-    }
-
-    private static void readerFacts(BookplateHall hall, int reader, int... due) {
-        for (int what = 0; what < due.length; what++) {
-            Check.same("ofReader(" + reader + ", " + what + ")", due[what], hall.ofReader(reader, what));
-        }
     }
 }

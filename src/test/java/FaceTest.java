@@ -11,7 +11,7 @@ import java.util.HashSet;
 import java.util.List;
 import java.util.Set;
 
-/** The public face, and those rules of the language that can be seen from outside. */
+/** The public face, and those rules of the language that a look at the class or at its source can tell. */
 public final class FaceTest {
 
     private static final String INDEX = " IndexOutOfBoundsException";
@@ -51,10 +51,13 @@ public final class FaceTest {
         "long digest()",
     };
 
-    /** What the language leaves out and a reader of the source may slip in. */
+    /** What the language leaves out, as it would stand in the source. */
     private static final String[] LEFT_OUT = {
-        "import ", "package ", "->", "::", "catch", "finally", "synchronized", "assert ", "lambda",
-        "System.", "Exact(", "Object", "@Override", "toString", "hashCode", "equals(",
+        "package ", "::", "finally", "synchronized", "assert ", "static {", "getMessage", "printStackTrace",
+        "catch (RuntimeException", "catch (Exception", "catch (Throwable", "NullPointerException",
+        "ArrayIndexOutOfBoundsException", "ClassCastException", "NegativeArraySizeException", "ArrayStoreException",
+        "Exact(", "hashCode", "System.out", "System.err", "System.in", "nanoTime", "currentTimeMillis", "Random",
+        "Thread",
     };
 
     private FaceTest() {
@@ -143,10 +146,11 @@ public final class FaceTest {
 
     private static void theClassesInside() {
         Class<?>[] inside = BookplateHall.class.getDeclaredClasses();
-        Check.holds("twelve classes or fewer", inside.length < 12);
+        Check.holds("twelve classes or fewer", inside.length <= 12);
         for (Class<?> one : inside) {
             int modifiers = one.getModifiers();
-            Check.holds(one + " is private and static", Modifier.isPrivate(modifiers) && Modifier.isStatic(modifiers));
+            Check.holds(one + " is private or package-visible",
+                    !Modifier.isPublic(modifiers) && !Modifier.isProtected(modifiers));
         }
     }
 

@@ -128,21 +128,21 @@ public final class NamesAndRecordsTest {
     private static void promise6OfRecord() {
         BookplateHall hall = Halls.withNames(2);
         hall.record(1, 9, 42);
-        facts(hall, 0, 1, 9, 42, 0, 0, 0, 0);
+        Facts.ofRecord(hall, 0, 1, 9, 42, 0, 0, 0, 0);
         hall.record(NONE, 5, 7);
-        facts(hall, 1, NONE, 5, 7, 1, 0, 0, 0);
+        Facts.ofRecord(hall, 1, NONE, 5, 7, 1, 0, 0, 0);
         hall.reader(1);
         hall.reader(0);
         hall.copy(0, 10);
         hall.copy(0, 10);
         hall.lend(0, 0);
-        facts(hall, 0, 1, 9, 42, 0, 2, 0, 1);
+        Facts.ofRecord(hall, 0, 1, 9, 42, 0, 2, 0, 1);
         hall.await(1, 0);
-        facts(hall, 0, 1, 9, 42, 0, 2, 1, 1);
+        Facts.ofRecord(hall, 0, 1, 9, 42, 0, 2, 1, 1);
         hall.pass(40);
         hall.pass(18);
         Check.same("copy 0 is lost", 3, hall.ofCopy(0, 1));
-        facts(hall, 0, 1, 9, 42, 0, 1, 0, 1);
+        Facts.ofRecord(hall, 0, 1, 9, 42, 0, 1, 0, 1);
         hall.variant(1, 0);
         Check.same("the author itself, not what it stands for", 1, hall.ofRecord(0, 0));
     }
@@ -161,14 +161,14 @@ public final class NamesAndRecordsTest {
         hall.lend(0, 0);
         hall.lend(0, 1);
         hall.lay(0, 1);
-        facts(hall, 0, 0, 1, 1, 1, 2, 0, 3);
+        Facts.ofRecord(hall, 0, 0, 1, 1, 1, 2, 0, 3);
         hall.lend(0, 2);
         hall.back(1);
         hall.lend(0, 1);
         hall.lay(1, 2);
-        facts(hall, 0, 0, 1, 1, 2, 3, 0, 5);
-        facts(hall, 1, NONE, 2, 2, 2, 3, 0, 5);
-        facts(hall, 2, NONE, 3, 3, 2, 3, 0, 5);
+        Facts.ofRecord(hall, 0, 0, 1, 1, 2, 3, 0, 5);
+        Facts.ofRecord(hall, 1, NONE, 2, 2, 2, 3, 0, 5);
+        Facts.ofRecord(hall, 2, NONE, 3, 3, 2, 3, 0, 5);
     }
 
     private static void promise6OfRecordRefuses() {
@@ -295,8 +295,8 @@ public final class NamesAndRecordsTest {
         hall.await(1, 1);
         hall.await(2, 1);
         Check.same("lay", 0, hall.lay(0, 1));
-        line(hall, 0, 1, 2, 3, 0);
-        line(hall, 1, 1, 2, 3, 0);
+        Facts.line(hall, 0, 1, 2, 3, 0);
+        Facts.line(hall, 1, 1, 2, 3, 0);
         Check.same("reader 1 waits once", 1, hall.ofReader(1, 3));
         Check.same("reader 3 waits once", 1, hall.ofReader(3, 3));
     }
@@ -308,7 +308,7 @@ public final class NamesAndRecordsTest {
         hall.await(1, 1);
         hall.await(2, 1);
         Check.same("lay", 1, hall.lay(0, 1));
-        line(hall, 1, 1, 2);
+        Facts.line(hall, 1, 1, 2);
         Check.same("due of one with two waiting", 28, hall.ofCopy(0, 3));
         Check.same("back", 0, hall.back(0));
         Check.same("it is aside for the very reader who brought it", 1, hall.ofCopy(0, 2));
@@ -324,7 +324,7 @@ public final class NamesAndRecordsTest {
         Check.same("aside for reader 0", 0, hall.ofCopy(0, 2));
         hall.await(1, 1);
         Check.same("lay", 2, hall.lay(0, 1));
-        line(hall, 1, 1);
+        Facts.line(hall, 1, 1);
         Check.same("freed from who has a copy now, for who waits", 1, hall.ofCopy(0, 2));
         Check.same("aside", 2, hall.ofCopy(0, 1));
         hall.leave(1, 1);
@@ -335,9 +335,9 @@ public final class NamesAndRecordsTest {
         moved.lend(0, 0);
         moved.await(0, 1);
         moved.lay(0, 1);
-        line(moved, 1, 0);
+        Facts.line(moved, 1, 0);
         moved.lay(1, 2);
-        line(moved, 2);
+        Facts.line(moved, 2);
         Check.same("the copy that moves with the waiter bars it", 0, moved.ofReader(0, 3));
     }
 
@@ -352,7 +352,7 @@ public final class NamesAndRecordsTest {
         hall.await(2, 1);
         hall.pass(2);
         Check.same("lay", 2, hall.lay(1, 0));
-        line(hall, 0, 0, 1, 2);
+        Facts.line(hall, 0, 0, 1, 2);
         Check.same("the smaller stays aside", 0, hall.ofCopy(0, 2));
         Check.same("till the same day", 6, hall.ofCopy(0, 3));
         Check.same("the greater goes to the next", 1, hall.ofCopy(1, 2));
@@ -403,7 +403,7 @@ public final class NamesAndRecordsTest {
         hall.await(3, 1);
         Check.same("aside for reader 1", 1, hall.ofCopy(0, 2));
         hall.lay(0, 1);
-        line(hall, 1, 2, 3);
+        Facts.line(hall, 1, 2, 3);
         Check.same("freed for the first", 2, hall.ofCopy(0, 2));
         Check.same("lent yet", 1, hall.ofCopy(1, 1));
 
@@ -416,7 +416,7 @@ public final class NamesAndRecordsTest {
         both.await(1, 0);
         both.await(2, 0);
         both.lay(0, 1);
-        line(both, 1, 1, 2);
+        Facts.line(both, 1, 1, 2);
         Check.same("the one freed comes ahead of the one that is in", 1, both.ofCopy(0, 2));
         Check.same("the one that is in comes behind it", 2, both.ofCopy(2, 2));
     }
@@ -473,19 +473,5 @@ public final class NamesAndRecordsTest {
         Check.refuses(Check.INDEX, "found(4096, 1)", hall, () -> hall.found(4096, 1));
         Check.refuses(Check.ARGUMENT, "found(4096, 0)", hall, () -> hall.found(4096, 0));
         Check.refuses(Check.ARGUMENT, "found(-1, -1)", hall, () -> hall.found(-1, NONE));
-    }
-
-    private static void facts(BookplateHall hall, int record, int... due) {
-        for (int what = 0; what < due.length; what++) {
-            Check.same("ofRecord(" + record + ", " + what + ")", due[what], hall.ofRecord(record, what));
-        }
-    }
-
-    private static void line(BookplateHall hall, int record, int... due) {
-        Check.same("how many wait for " + record, due.length, hall.ofRecord(record, 5));
-        for (int k = 0; k < due.length; k++) {
-            Check.same("waiter(" + record + ", " + k + ")", due[k], hall.waiter(record, k));
-        }
-        Check.refuses(Check.INDEX, "the place behind the line", hall, () -> hall.waiter(record, due.length));
     }
 }

@@ -5,8 +5,10 @@ import java.util.Random;
 /** Long runs of calls, the same ones each time, with each answer laid beside that of PlainLibrary. */
 public final class RandomRunsTest {
 
-    private static final int RUNS = 400;
-    private static final int CALLS = 500;
+    private static final int RUNS = 600;
+    // With those that open a library and the digests between, no library is asked more than 512 times.
+    private static final int CALLS = 360;
+    private static final int CALLS_BETWEEN_DIGESTS = 3;
     private static final int KINDS_OF_CALLS = 30;
 
     private final Random random;
@@ -58,7 +60,7 @@ public final class RandomRunsTest {
             if (!due.equals(got)) {
                 return told + " got " + got;
             }
-            if (hall.digest() != plain.digest()) {
+            if (call % CALLS_BETWEEN_DIGESTS == 0 && hall.digest() != plain.digest()) {
                 return told + " differs in its digest";
             }
         }

@@ -218,18 +218,18 @@ public final class WaitingAndDaysTest {
         }
         hall.lend(0, 0);
         hall.lend(0, 1);
-        totals(hall, 0, 2, 2, 10, 3, 8, 2, 0, 0, 0);
+        Facts.totals(hall, 0, 2, 2, 10, 3, 8, 2, 0, 0, 0);
         hall.pass(40);
         hall.pass(4);
-        totals(hall, 44, 2, 2, 10, 3, 8, 0, 0, 2, 101);
+        Facts.totals(hall, 44, 2, 2, 10, 3, 8, 0, 0, 2, 101);
         hall.lend(1, 2);
         hall.await(1, 1);
         hall.await(2, 1);
         hall.await(2, 0);
-        totals(hall, 44, 2, 2, 10, 3, 4, 1, 3, 2, 101);
+        Facts.totals(hall, 44, 2, 2, 10, 3, 4, 1, 3, 2, 101);
         hall.pass(15);
         hall.back(2);
-        totals(hall, 59, 2, 2, 10, 3, 8, 0, 0, 2, 103);
+        Facts.totals(hall, 59, 2, 2, 10, 3, 8, 0, 0, 2, 103);
         Check.refuses(Check.ARGUMENT, "many(10)", hall, () -> hall.many(10));
         Check.refuses(Check.ARGUMENT, "many(-1)", hall, () -> hall.many(-1));
     }
@@ -250,11 +250,5 @@ public final class WaitingAndDaysTest {
         Check.same("of four of three", 4.0 / 3, hall.meanWaits());
         hall.lay(1, 2);
         Check.same("of three of three", 1.0, hall.meanWaits());
-    }
-
-    private static void totals(BookplateHall hall, int... due) {
-        for (int what = 0; what < due.length; what++) {
-            Check.same("many(" + what + ")", due[what], hall.many(what));
-        }
     }
 }

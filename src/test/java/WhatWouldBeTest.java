@@ -209,11 +209,11 @@ public final class WhatWouldBeTest {
         hall.await(2, 1);
         hall.lay(2, 1);
         hall.renew(0);
-        Check.same("digest", digestByTheFace(hall), hall.digest());
+        Check.same("digest", Checksum.wrapped(hall), hall.digest());
         hall.pass(40);
-        Check.same("digest with late ones", digestByTheFace(hall), hall.digest());
+        Check.same("digest with late ones", Checksum.wrapped(hall), hall.digest());
         hall.pass(20);
-        Check.same("digest with lost ones", digestByTheFace(hall), hall.digest());
+        Check.same("digest with lost ones", Checksum.wrapped(hall), hall.digest());
     }
 
     private static void promise31DigestOfThirtyDays() {
@@ -222,53 +222,10 @@ public final class WhatWouldBeTest {
         hall.lend(1, 1);
         hall.pass(14);
         Check.same("lost in 30 days", 1, hall.lostIn(30));
-        Check.same("digest with one lost in 30 days", digestByTheFace(hall), hall.digest());
+        Check.same("digest with one lost in 30 days", Checksum.wrapped(hall), hall.digest());
         hall.pass(13);
         Check.same("the other, not lost in 30 days", 1, hall.lostIn(30));
-        Check.same("digest with one lost in 31 days", digestByTheFace(hall), hall.digest());
-    }
-
-    /** The sum as the document tells it, of what the other calls answer. */
-    private static long digestByTheFace(BookplateHall hall) {
-        long sum = 982;
-        for (int what = 0; what <= 9; what++) {
-            sum = sum * 31 + hall.many(what);
-        }
-        for (int name = 0; name < hall.many(1); name++) {
-            sum = sum * 31 + hall.stands(name);
-        }
-        for (int record = 0; record < recordsOf(hall); record++) {
-            for (int what = 0; what <= 6; what++) {
-                sum = sum * 31 + hall.ofRecord(record, what);
-            }
-            for (int k = 0; k < hall.ofRecord(record, 5); k++) {
-                sum = sum * 31 + hall.waiter(record, k);
-            }
-        }
-        for (int copy = 0; copy < hall.many(3); copy++) {
-            for (int what = 0; what <= 6; what++) {
-                sum = sum * 31 + hall.ofCopy(copy, what);
-            }
-        }
-        for (int reader = 0; reader < hall.many(4); reader++) {
-            for (int what = 0; what <= 6; what++) {
-                sum = sum * 31 + hall.ofReader(reader, what);
-            }
-            sum = sum * 31 + hall.mayBorrow(reader);
-        }
-        return sum * 31 + hall.lostIn(30);
-    }
-
-    private static int recordsOf(BookplateHall hall) {
-        int count = 0;
-        try {
-            for (; count < 20; count++) {
-                hall.ofRecord(count, 0);
-            }
-        } catch (IndexOutOfBoundsException none) {
-            return count;
-        }
-        return count;
+        Check.same("digest with one lost in 31 days", Checksum.wrapped(hall), hall.digest());
     }
 
     private static void nothingIsChanged() {
